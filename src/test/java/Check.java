@@ -1,0 +1,38 @@
+/** Holds answers against those that are due, prints the wrong ones, and ends a test. */
+final class Check {
+    private final String test;
+    private int asked = 0;
+    private int wrong = 0;
+
+    Check(String test) {
+        this.test = test;
+    }
+
+    void due(String call, long got, long want) {
+        asked++;
+        if (got != want) {
+            wrong++;
+            System.out.println(test + ": " + call + " answered " + got + ", due is " + want);
+        }
+    }
+
+    void due(String call, boolean holds) {
+        due(call, holds ? 1 : 0, 1);
+    }
+
+    /** Where the test itself gives up on a run: told once, as one wrong answer. */
+    void fail(String what) {
+        due(what, 0, 1);
+    }
+
+    boolean allRight() {
+        return wrong == 0;
+    }
+
+    void end() {
+        System.out.println(test + ": " + asked + " answers, " + wrong + " wrong");
+        if (wrong != 0 || asked == 0) {
+            System.exit(1);
+        }
+    }
+}
