@@ -55,6 +55,19 @@ public final class RollTest {
         check.due("a seventh roll()", x.roll(), -1);
         check.due("an eighth roll()", x.roll(), -1);
         check.due("count(0)", x.count(0), 6);
+        check.due("the sixth: lay(5, 0, 0, 1)", x.lay(5, 0, 0, 1), 1);
+        check.due("no seventh: lay(6, 0, 0, 1)", x.lay(6, 0, 0, 1), -1);
+        check.due("no seventh: lift(6, 0, 0)", x.lift(6, 0, 0), -1);
+        check.due("no seventh: hole(6, 0, 0)", x.hole(6, 0, 0), -1);
+        check.due("no seventh: note(6, 0, 0)", x.note(6, 0, 0), -1);
+        check.due("no seventh: tempo(6, 0, 1)", x.tempo(6, 0, 1), -1);
+        check.due("no seventh: sounds(6, 0, 0)", x.sounds(6, 0, 0), -1);
+        check.due("no seventh: pressure(6, 0, 0)", x.pressure(6, 0, 0), -1);
+        check.due("no seventh: silent(6, 0)", x.silent(6, 0), -1);
+        check.due("no seventh: ticks(6)", x.ticks(6), -1);
+        check.due("no seventh: move(5, 6)", x.move(5, 6), -1);
+        check.due("no seventh: align(6, 0)", x.align(6, 0), -1);
+        check.due("no seventh: mend(6)", x.mend(6), -1);
     }
 
     private static void layNumbers() {
@@ -145,6 +158,7 @@ public final class RollTest {
         check.due("hole(0, 9, 0)", x.hole(0, 9, 0), 0);
         check.due("note(0, 59, 1)", x.note(0, 59, 1), 236);
         check.due("note(0, 60, 1)", x.note(0, 60, 1), -1);
+        check.due("of sixty none: lift(0, 9, 0)", x.lift(0, 9, 0), -1);
         check.due("lift(0, 7, 0)", x.lift(0, 7, 0), 1);
         check.due("lay(0, 9, 0, 1)", x.lay(0, 9, 0, 1), 1);
         check.due("lay(0, 9, 10, 1)", x.lay(0, 9, 10, 1), -1);
@@ -173,6 +187,10 @@ public final class RollTest {
         check.due("at its beginning: lift(0, 4, 10)", x.lift(0, 4, 10), 7);
         check.due("count(10)", x.count(10), 0);
         check.due("free again: lay(0, 3, 20, 30)", x.lay(0, 3, 20, 30), 1);
+        check.due("lay(0, 8, 240, 60)", x.lay(0, 8, 240, 60), 1);
+        check.due("the last step: lift(0, 8, 299)", x.lift(0, 8, 299), 60);
+        check.due("hole(0, 8, 240)", x.hole(0, 8, 240), 0);
+        check.due("hole(0, 8, 299)", x.hole(0, 8, 299), 0);
     }
 
     private static void holes() {

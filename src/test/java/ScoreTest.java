@@ -11,6 +11,7 @@ public final class ScoreTest {
         costs();
         ties();
         figures();
+        fullSides();
         mending();
         mendingInTheWay();
         mendingKeepsTheAlignmentAhead();
@@ -157,6 +158,44 @@ public final class ScoreTest {
             check.due("align(0, " + what + ")", x.align(0, what), figures[what]);
         }
         check.due("align changes nothing: count(10)", x.count(10), 6);
+    }
+
+    /** 60 notes and 40 items, where the last notes, the last items or all are paired. */
+    private static void fullSides() {
+        RollHouse x = withRoll();
+        for (int i = 0; i < 60; i++) {
+            x.lay(0, 12, 4 * i, 1);
+        }
+        for (int j = 0; j < 40; j++) {
+            x.item(12, 4 * (j + 20));
+        }
+        int[] atTheEnd = {100, 40, 0, 20, 0, 0};
+        for (int what = 0; what < 6; what++) {
+            check.due("the last notes: align(0, " + what + ")", x.align(0, what), atTheEnd[what]);
+        }
+        check.due("the last notes: paired(0, 0)", x.paired(0, 0), 20);
+        check.due("the last notes: paired(0, 39)", x.paired(0, 39), 59);
+        check.due("the last notes: paired(0, 40)", x.paired(0, 40), -1);
+        x.clear();
+        for (int j = 0; j < 40; j++) {
+            x.item(j < 10 ? 12 : 23, j < 10 ? 4 * (j + 50) + 1 : 299);
+        }
+        int[] itemsLeft = {10 + 50 * 5 + 30 * 5, 10, 30, 50, 0, 10};
+        for (int what = 0; what < 6; what++) {
+            check.due("items are left: align(0, " + what + ")", x.align(0, what), itemsLeft[what]);
+        }
+        check.due("items are left: paired(0, 9)", x.paired(0, 9), 59);
+        check.due("items are left: paired(0, 10)", x.paired(0, 10), -1);
+        check.due("items are left: paired(0, 39)", x.paired(0, 39), -1);
+        x.clear();
+        for (int j = 0; j < 40; j++) {
+            x.item(13, 4 * j);
+        }
+        check.due("the first notes: align(0, 0)", x.align(0, 0), 40 * 2 + 20 * 5);
+        check.due("the first notes: mend(0)", x.mend(0), 40);
+        check.due("the first notes: align(0, 0)", x.align(0, 0), 20 * 5);
+        check.due("the first notes: note(0, 39, 0)", x.note(0, 39, 0), 13);
+        check.due("the first notes: note(0, 40, 0)", x.note(0, 40, 0), 12);
     }
 
     private static void mending() {
