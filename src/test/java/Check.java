@@ -8,6 +8,15 @@ final class Check {
         this.test = test;
     }
 
+    /** A new house that has so many rolls. */
+    static RollHouse withRolls(int n) {
+        RollHouse house = new RollHouse();
+        for (int i = 0; i < n; i++) {
+            house.roll();
+        }
+        return house;
+    }
+
     void due(String call, long got, long want) {
         asked++;
         if (got != want) {
@@ -18,11 +27,6 @@ final class Check {
 
     void due(String call, boolean holds) {
         due(call, holds ? 1 : 0, 1);
-    }
-
-    /** Where the test itself gives up on a run: told once, as one wrong answer. */
-    void fail(String what) {
-        due(what, 0, 1);
     }
 
     boolean allRight() {

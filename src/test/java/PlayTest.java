@@ -17,16 +17,8 @@ public final class PlayTest {
         check.end();
     }
 
-    private static RollHouse withRolls(int n) {
-        RollHouse x = new RollHouse();
-        for (int i = 0; i < n; i++) {
-            x.roll();
-        }
-        return x;
-    }
-
     private static void wrongNumbers() {
-        RollHouse x = withRolls(1);
+        RollHouse x = Check.withRolls(1);
         x.lay(0, 3, 0, 2);
         int[][] wrong = {{1, 0, 0}, {-1, 0, 0}, {0, -1, 0}, {0, 21, 0}, {0, 0, -1}, {0, 0, 600}, {0, 0, MAX},
             {0, 0, MIN}, {0, MAX, 0}, {0, MIN, 0}, {MAX, 0, 0}, {MIN, 0, 0}};
@@ -46,7 +38,7 @@ public final class PlayTest {
     }
 
     private static void fullAndEmpty() {
-        RollHouse x = withRolls(1);
+        RollHouse x = Check.withRolls(1);
         check.due("pressure(0, 20, 0)", x.pressure(0, 20, 0), 50);
         check.due("pressure(0, 20, 1)", x.pressure(0, 20, 1), 70);
         check.due("pressure(0, 20, 2)", x.pressure(0, 20, 2), 90);
@@ -62,7 +54,7 @@ public final class PlayTest {
     }
 
     private static void threshold() {
-        RollHouse x = withRolls(1);
+        RollHouse x = Check.withRolls(1);
         x.tempo(0, 0, 1);
         x.lay(0, 6, 0, 60);
         check.due("pressure(0, 0, 42)", x.pressure(0, 0, 42), 8);
@@ -87,7 +79,7 @@ public final class PlayTest {
     }
 
     private static void crowd() {
-        RollHouse x = withRolls(1);
+        RollHouse x = Check.withRolls(1);
         x.tempo(0, 0, 1);
         int[] ten = {0, 1, 2, 4, 5, 6, 8, 9, 10, 12};
         int bits = 0;
@@ -117,7 +109,7 @@ public final class PlayTest {
     }
 
     private static void bridgesSound() {
-        RollHouse x = withRolls(1);
+        RollHouse x = Check.withRolls(1);
         x.tempo(0, 0, 1);
         x.lay(0, 23, 10, 10);
         check.due("sounds(0, 5, 9)", x.sounds(0, 5, 9), 0);
@@ -128,7 +120,7 @@ public final class PlayTest {
     }
 
     private static void tempoTurns() {
-        RollHouse x = withRolls(1);
+        RollHouse x = Check.withRolls(1);
         x.tempo(0, 3, 9);
         x.tempo(0, 5, 1);
         x.lay(0, 1, 3, 1);
@@ -150,7 +142,7 @@ public final class PlayTest {
     }
 
     private static void moving() {
-        RollHouse x = withRolls(3);
+        RollHouse x = Check.withRolls(3);
         int[] pitches = {0, 3, 4, 19, 20, 23};
         int[] moved = {12, 15, 4, 19, 8, 11};
         for (int i = 0; i < 6; i++) {
@@ -189,7 +181,7 @@ public final class PlayTest {
     }
 
     private static void movingRefused() {
-        RollHouse x = withRolls(2);
+        RollHouse x = Check.withRolls(2);
         x.lay(0, 1, 0, 1);
         x.tempo(0, 0, 9);
         int[][] wrong = {{0, 0}, {1, 1}, {0, 2}, {2, 0}, {-1, 0}, {0, -1}, {MAX, 0}, {0, MIN}, {2, 2}, {1, 0}};
@@ -206,7 +198,7 @@ public final class PlayTest {
     }
 
     private static void movingUnbearable() {
-        RollHouse x = withRolls(2);
+        RollHouse x = Check.withRolls(2);
         // 0, 1, 2 come to 12, 13, 14 beside 15; 23 comes to 11, 3 to 15.
         int[] together = {0, 1, 2, 15, 23};
         for (int pitch : together) {
@@ -222,7 +214,7 @@ public final class PlayTest {
             check.due("note(1, " + i + ", 0)", x.note(1, i, 0), want[i]);
         }
         // Of two notes that come to one pitch, that which is first in order stays.
-        RollHouse y = withRolls(2);
+        RollHouse y = Check.withRolls(2);
         y.lay(0, 14, 4, 3);
         y.lay(0, 2, 0, 4);
         y.lay(0, 9, 4, 3);

@@ -18,14 +18,6 @@ public final class RollTest {
         check.end();
     }
 
-    private static RollHouse withRolls(int n) {
-        RollHouse x = new RollHouse();
-        for (int i = 0; i < n; i++) {
-            x.roll();
-        }
-        return x;
-    }
-
     private static void newObject() {
         RollHouse x = new RollHouse();
         for (int what = 0; what <= 4; what++) {
@@ -71,7 +63,7 @@ public final class RollTest {
     }
 
     private static void layNumbers() {
-        RollHouse x = withRolls(2);
+        RollHouse x = Check.withRolls(2);
         int[][] wrong = {{2, 0, 0, 1}, {-1, 0, 0, 1}, {MAX, 0, 0, 1}, {MIN, 0, 0, 1},
             {0, 24, 0, 1}, {0, -1, 0, 1}, {0, MAX, 0, 1}, {0, MIN, 0, 1},
             {0, 0, -1, 1}, {0, 0, 300, 1}, {0, 0, MAX, 1}, {0, 0, MIN, 1}, {0, 0, MAX, MAX},
@@ -90,7 +82,7 @@ public final class RollTest {
     }
 
     private static void near() {
-        RollHouse x = withRolls(2);
+        RollHouse x = Check.withRolls(2);
         check.due("lay(0, 5, 100, 10)", x.lay(0, 5, 100, 10), 1);
         int[][] near = {{100, 10}, {109, 1}, {110, 1}, {99, 1}, {90, 10}, {90, 60}, {103, 2}, {50, 50}};
         for (int[] n : near) {
@@ -108,7 +100,7 @@ public final class RollTest {
     }
 
     private static void paper() {
-        RollHouse x = withRolls(3);
+        RollHouse x = Check.withRolls(3);
         int[] ten = {0, 1, 2, 4, 5, 6, 8, 9, 10, 12};
         for (int pitch : ten) {
             check.due("ten: lay(0, " + pitch + ", 50, 9)", x.lay(0, pitch, 50, 9), 1);
@@ -148,7 +140,7 @@ public final class RollTest {
     }
 
     private static void sixtyNotes() {
-        RollHouse x = withRolls(1);
+        RollHouse x = Check.withRolls(1);
         for (int i = 0; i < 60; i++) {
             check.due("lay " + i, x.lay(0, 7, 4 * i, 1), 1);
         }
@@ -165,7 +157,7 @@ public final class RollTest {
     }
 
     private static void lifting() {
-        RollHouse x = withRolls(1);
+        RollHouse x = Check.withRolls(1);
         x.lay(0, 3, 10, 20);
         x.lay(0, 3, 31, 5);
         x.lay(0, 4, 10, 7);
@@ -194,7 +186,7 @@ public final class RollTest {
     }
 
     private static void holes() {
-        RollHouse x = withRolls(1);
+        RollHouse x = Check.withRolls(1);
         x.lay(0, 5, 100, 60);
         for (int step = 90; step < 170; step++) {
             int k = step - 100;
@@ -217,7 +209,7 @@ public final class RollTest {
     }
 
     private static void order() {
-        RollHouse x = withRolls(2);
+        RollHouse x = Check.withRolls(2);
         int[][] laid = {{9, 50, 4}, {3, 50, 1}, {20, 0, 2}, {5, 299, 1}, {6, 50, 60}, {22, 49, 3}, {0, 51, 5}};
         int[][] want = {{20, 0, 2}, {22, 49, 3}, {3, 50, 1}, {6, 50, 60}, {9, 50, 4}, {0, 51, 5}, {5, 299, 1}};
         for (int[] n : laid) {
@@ -236,7 +228,7 @@ public final class RollTest {
     }
 
     private static void tempo() {
-        RollHouse x = withRolls(2);
+        RollHouse x = Check.withRolls(2);
         check.due("ticks(0)", x.ticks(0), 600);
         int[][] wrong = {{2, 0, 1}, {-1, 0, 1}, {0, -1, 1}, {0, 300, 1}, {0, 0, 0}, {0, 0, 10}, {0, 0, -1},
             {0, MAX, 1}, {0, MIN, 1}, {0, 0, MAX}, {0, 0, MIN}};

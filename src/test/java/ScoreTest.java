@@ -18,12 +18,6 @@ public final class ScoreTest {
         check.end();
     }
 
-    private static RollHouse withRoll() {
-        RollHouse x = new RollHouse();
-        x.roll();
-        return x;
-    }
-
     private static void items() {
         RollHouse x = new RollHouse();
         int[][] wrong = {{-1, 0}, {24, 0}, {0, -1}, {0, 300}, {MAX, 0}, {0, MIN}};
@@ -49,7 +43,7 @@ public final class ScoreTest {
     }
 
     private static void wrongNumbers() {
-        RollHouse x = withRoll();
+        RollHouse x = Check.withRolls(1);
         x.lay(0, 5, 5, 5);
         x.item(5, 5);
         int[][] wrong = {{1, 0}, {-1, 0}, {0, 6}, {0, -1}, {0, MAX}, {0, MIN}, {MAX, 0}};
@@ -70,7 +64,7 @@ public final class ScoreTest {
     }
 
     private static void emptySides() {
-        RollHouse x = withRoll();
+        RollHouse x = Check.withRolls(1);
         for (int what = 0; what < 6; what++) {
             check.due("nothing: align(0, what)", x.align(0, what), 0);
         }
@@ -98,7 +92,7 @@ public final class ScoreTest {
             {10, 96, 4}, {10, 105, 4}, {10, 0, 4}, {10, 299, 4}, {13, 103, 9}, {13, 104, 10}, {13, 200, 10},
             {14, 102, 10}, {14, 103, 10}, {15, 100, 10}, {5, 100, 10}, {15, 101, 10}, {16, 100, 10}};
         for (int[] r : rows) {
-            RollHouse x = withRoll();
+            RollHouse x = Check.withRolls(1);
             x.lay(0, 10, 100, 20);
             x.item(r[0], r[1]);
             int apart = 2 * Math.abs(r[0] - 10) + Math.min(4, Math.abs(r[1] - 100));
@@ -114,14 +108,14 @@ public final class ScoreTest {
 
     private static void ties() {
         // Two notes alike to one item: the pair of the first note comes first.
-        RollHouse x = withRoll();
+        RollHouse x = Check.withRolls(1);
         x.lay(0, 9, 50, 1);
         x.lay(0, 11, 50, 1);
         x.item(10, 50);
         check.due("align(0, 0)", x.align(0, 0), 7);
         check.due("paired(0, 0)", x.paired(0, 0), 0);
         // Two items alike to one note: the pair with the first item comes first.
-        RollHouse y = withRoll();
+        RollHouse y = Check.withRolls(1);
         y.lay(0, 10, 50, 1);
         y.item(9, 50);
         y.item(11, 50);
@@ -129,7 +123,7 @@ public final class ScoreTest {
         check.due("paired(0, 1)", y.paired(0, 1), -1);
         // One pair of (note 0, item 1) or of (note 1, item 0), each at cost 0 with both others alone:
         // an item missed first comes ahead of a note extra first.
-        RollHouse z = withRoll();
+        RollHouse z = Check.withRolls(1);
         z.lay(0, 2, 50, 1);
         z.lay(0, 20, 50, 1);
         z.item(20, 50);
@@ -140,7 +134,7 @@ public final class ScoreTest {
     }
 
     private static void figures() {
-        RollHouse x = withRoll();
+        RollHouse x = Check.withRolls(1);
         int[][] notes = {{5, 0}, {9, 10}, {12, 20}, {3, 30}, {20, 40}, {7, 50}};
         for (int[] n : notes) {
             check.due("lay", x.lay(0, n[0], n[1], 3), 1);
@@ -162,7 +156,7 @@ public final class ScoreTest {
 
     /** 60 notes and 40 items, where the last notes, the last items or all are paired. */
     private static void fullSides() {
-        RollHouse x = withRoll();
+        RollHouse x = Check.withRolls(1);
         for (int i = 0; i < 60; i++) {
             x.lay(0, 12, 4 * i, 1);
         }
@@ -199,7 +193,7 @@ public final class ScoreTest {
     }
 
     private static void mending() {
-        RollHouse x = withRoll();
+        RollHouse x = Check.withRolls(1);
         x.lay(0, 5, 0, 20);
         x.lay(0, 9, 30, 4);
         x.lay(0, 12, 40, 1);
@@ -222,7 +216,7 @@ public final class ScoreTest {
 
     private static void mendingInTheWay() {
         // The note of pitch 7 is in the way of that of 5; the paper does not bear 16 beside 13 to 15.
-        RollHouse x = withRoll();
+        RollHouse x = Check.withRolls(1);
         x.lay(0, 5, 10, 9);
         x.lay(0, 7, 19, 4);
         x.item(7, 10);
@@ -231,7 +225,7 @@ public final class ScoreTest {
         check.due("as it was: note(0, 0, 0)", x.note(0, 0, 0), 5);
         check.due("as it was: note(0, 0, 2)", x.note(0, 0, 2), 9);
         check.due("as it was: hole(0, 5, 17)", x.hole(0, 5, 17), 2);
-        RollHouse y = withRoll();
+        RollHouse y = Check.withRolls(1);
         y.lay(0, 13, 0, 2);
         y.lay(0, 14, 0, 2);
         y.lay(0, 15, 0, 2);
@@ -244,7 +238,7 @@ public final class ScoreTest {
         check.due("as it was: note(0, 3, 0)", y.note(0, 3, 0), 17);
         check.due("hole(0, 16, 1)", y.hole(0, 16, 1), 0);
         // A note is not in its own way: 59 others are there, and it may move by one.
-        RollHouse z = withRoll();
+        RollHouse z = Check.withRolls(1);
         for (int i = 0; i < 60; i++) {
             z.lay(0, 4, 5 * i, 4);
         }
@@ -257,7 +251,7 @@ public final class ScoreTest {
     private static void mendingKeepsTheAlignmentAhead() {
         // The first note comes behind the second one in order as it is mended, but the second
         // one's pair still is its own.
-        RollHouse x = withRoll();
+        RollHouse x = Check.withRolls(1);
         x.lay(0, 5, 10, 3);
         x.lay(0, 6, 10, 4);
         x.item(8, 10);
@@ -270,7 +264,7 @@ public final class ScoreTest {
         check.due("note(0, 1, 0)", x.note(0, 1, 0), 8);
         check.due("note(0, 1, 2)", x.note(0, 1, 2), 3);
         // Pair by pair: the first finds its place taken still, the second leaves it.
-        RollHouse y = withRoll();
+        RollHouse y = Check.withRolls(1);
         y.lay(0, 5, 10, 3);
         y.lay(0, 6, 10, 4);
         y.item(6, 10);
@@ -281,7 +275,7 @@ public final class ScoreTest {
         check.due("note(0, 0, 0)", y.note(0, 0, 0), 5);
         check.due("note(0, 0, 2)", y.note(0, 0, 2), 3);
         check.due("note(0, 1, 0)", y.note(0, 1, 0), 7);
-        RollHouse z = withRoll();
+        RollHouse z = Check.withRolls(1);
         z.lay(0, 5, 10, 3);
         z.lay(0, 6, 12, 4);
         z.item(6, 10);
